@@ -6,6 +6,7 @@ public final class TextsTest {
         noSuchText();
         faultTells();
         tokens();
+        fullTape();
         lawGrammar();
         openOnes();
         seventeenLines();
@@ -128,6 +129,38 @@ public final class TextsTest {
         Due.faulty(x, 0, "presses 12 34;", 1, 11);
         Due.faulty(x, 0, "pressesskill;", 1, 0);
         Due.faulty(x, 0, "presses skillplan;", 1, 8);
+    }
+
+    private static void fullTape() {
+        SlipperTruce x = some();
+        for (String sign : ";+-*/()<=>.?".split("")) {
+            Due.faulty(x, 0, sign.repeat(400), 1, 0);
+        }
+        Due.told(x, 0, "reads 1" + "+1".repeat(196) + ";", 1);
+        Due.is("of(0, 11)", x.of(0, 11), 197);
+        Due.faulty(x, 0, "reads 1" + "+1".repeat(196) + "+", 1, 400);
+        Due.told(x, 0, "reads 9" + "*1".repeat(196) + ";", 1);
+        Due.is("of(0, 11)", x.of(0, 11), 9);
+        Due.told(x, 0, "reads 9" + "/1".repeat(196) + ";", 1);
+        Due.is("of(0, 11)", x.of(0, 11), 9);
+        Due.faulty(x, 0, "reads 9" + "/1".repeat(195) + "/0;", 2, 398);
+        Due.told(x, 0, "reads 8 when 1=2" + " or 1=2".repeat(53) + " or 1=1" + ";", 1);
+        Due.is("of(0, 11)", x.of(0, 11), 8);
+        Due.told(x, 0, "rests 1;" + " ".repeat(392), 1);
+        Due.told(x, 0, " ".repeat(392) + "rests 1;", 1);
+        Due.faulty(x, 0, " ".repeat(393) + "rests 1", 1, 400);
+        Due.faulty(x, 0, "z".repeat(400), 1, 0);
+        Due.faulty(x, 0, "rests " + "1".repeat(394), 1, 6);
+        for (String letter : "a m z A M Z".split(" ")) {
+            Due.faulty(x, 0, "presses skill" + letter + ";", 1, 8);
+            Due.faulty(x, 0, "presses " + letter + "skill;", 1, 8);
+        }
+        for (String sign : "@ [ ` { ? !".split(" ")) {
+            Due.faulty(x, 0, "presses skill" + sign + ";", 1, 13);
+        }
+        for (String sign : ": .".split(" ")) {
+            Due.faulty(x, 0, "presses 12" + sign + ";", 1, 10);
+        }
     }
 
     private static void lawGrammar() {
