@@ -24,51 +24,6 @@ public final class BackTest {
         return x;
     }
 
-    /** All that can be asked of the war, in a row. */
-    static String all(SlipperTruce x) {
-        StringBuilder s = new StringBuilder();
-        for (int i = 0; i < 12; i++) {
-            s.append(x.look(i)).append(' ');
-        }
-        for (int i = 0; i < 12; i++) {
-            for (int what = 0; what < 13; what++) {
-                s.append(x.of(i, what)).append(' ');
-            }
-            for (int what = 0; what < 4; what++) {
-                s.append(x.who(i, what)).append(' ');
-            }
-        }
-        for (int i = 0; i < 150; i++) {
-            for (int what = 0; what < 4; what++) {
-                s.append(x.book(i, what)).append(' ');
-            }
-        }
-        for (int what = 0; what < 4; what++) {
-            s.append(x.goes(1, what)).append(' ').append(x.goes(20, what)).append(' ');
-        }
-        s.append(x.peace());
-        return s.toString();
-    }
-
-    /** All that is asked of what is told for thought, in a row. */
-    static String thoughts(SlipperTruce x) {
-        StringBuilder s = new StringBuilder();
-        s.append(x.words(0)).append(' ').append(x.words(1)).append(' ');
-        for (int i = 0; i < 12; i++) {
-            for (int what = 0; what < 17; what++) {
-                s.append(x.message(what, i)).append(' ');
-            }
-        }
-        for (int n = 0; n < 8; n++) {
-            s.append(x.anew(n)).append(' ').append(x.queens(n)).append(' ');
-        }
-        for (int i = -50; i <= 50; i += 5) {
-            s.append(x.within(i, i)).append(x.within(i, 0)).append(x.within(0, i)).append(' ');
-        }
-        s.append(x.area());
-        return s.toString();
-    }
-
     private static void same(String what, String got, String due) {
         Due.is(what, got.equals(due), true);
     }
@@ -81,15 +36,15 @@ public final class BackTest {
         int[][] acts = {{0, 0, 9}, {1, 2, 0}, {0, 2, 9}, {2, 2, 0}, {3, 1, 0}};
         String[] was = new String[acts.length];
         for (int i = 0; i < acts.length; i++) {
-            was[i] = all(x);
+            was[i] = Stand.war(x);
             Due.is("act", x.act(acts[i][0], acts[i][1], acts[i][2]), true);
             Due.is("look(12)", x.look(12), i + 1);
-            same("the act did something", all(x).equals(was[i]) ? "same" : "other", "other");
+            same("the act did something", Stand.war(x).equals(was[i]) ? "same" : "other", "other");
         }
         for (int i = acts.length - 1; i >= 0; i--) {
             Due.is("undo()", x.undo(), true);
             Due.is("look(12)", x.look(12), i);
-            same("undone " + i, all(x), was[i]);
+            same("undone " + i, Stand.war(x), was[i]);
         }
         Due.is("undo()", x.undo(), false);
     }
@@ -102,20 +57,20 @@ public final class BackTest {
         x.set(5, 0, 60);
         String[] was = new String[6];
         for (int i = 0; i < 6; i++) {
-            was[i] = all(x);
+            was[i] = Stand.war(x);
             x.days(1);
         }
         Due.is("it is won", x.look(3), 0);
         for (int i = 5; i >= 0; i--) {
             Due.is("undo()", x.undo(), true);
-            same("undone day " + i, all(x), was[i]);
+            same("undone day " + i, Stand.war(x), was[i]);
         }
         Due.is("look(7)", x.look(7), 99);
         x.days(6);
         x.undo();
         x.undo();
         x.undo();
-        same("undone three of six", all(x), was[3]);
+        same("undone three of six", Stand.war(x), was[3]);
     }
 
     private static void sixAreKept() {
@@ -225,8 +180,8 @@ public final class BackTest {
             x.corner(-100, 0);
         }, 3);
         kept("what is asked", x -> {
-            all(x);
-            thoughts(x);
+            Stand.war(x);
+            Stand.thoughts(x);
             x.fault(0);
             x.boots(3, 1, 1);
         }, 3);
@@ -273,10 +228,10 @@ public final class BackTest {
         x.state(4);
         x.set(4, 1, 8);
         x.days(2);
-        String war = all(x);
-        String thoughts = thoughts(x);
+        String war = Stand.war(x);
+        String thoughts = Stand.thoughts(x);
         Due.is("image(true)", x.image(true), true);
-        same("the taking changes nothing", all(x), war);
+        same("the taking changes nothing", Stand.war(x), war);
         for (int turn = 0; turn < 3; turn++) {
             x.days(9);
             x.officer(1, 9);
@@ -293,10 +248,10 @@ public final class BackTest {
             x.letter(1, -1);
             x.set(5, 0, 97);
             x.days(4);
-            same("it has gone on", all(x).equals(war) ? "same" : "other", "other");
+            same("it has gone on", Stand.war(x).equals(war) ? "same" : "other", "other");
             Due.is("image(false)", x.image(false), true);
-            same("gone back: the war", all(x), war);
-            same("gone back: what is told for thought", thoughts(x), thoughts);
+            same("gone back: the war", Stand.war(x), war);
+            same("gone back: what is told for thought", Stand.thoughts(x), thoughts);
             Due.is("look(12)", x.look(12), 0);
         }
         Due.is("the next guess", x.guess(0, 0, 0), 2);

@@ -1,22 +1,53 @@
+import java.io.IOException;
 import java.nio.charset.StandardCharsets;
+import java.nio.file.Files;
+import java.nio.file.Path;
 
 /** What the tests share: it prints each call whose answer is not the one that is due. */
 final class Due {
+    /** Numbers beyond all bounds that the document tells, but for those of an int. */
+    static final int[] FAR = {Integer.MIN_VALUE, Integer.MIN_VALUE + 1, -1000000, 1000000, Integer.MAX_VALUE - 1,
+        Integer.MAX_VALUE};
     static int wrong = 0;
     static int asked = 0;
+    private static int sentences = 0;
+    private static String sentence = "";
+    private static String document = "";
+
+    /** The words of the document that the answers from here on are held against; they must stand in it. */
+    static void says(String words) {
+        if (document.isEmpty()) {
+            document = document();
+        }
+        sentences++;
+        sentence = "\"" + words + "\": ";
+        is("the document says so", document.contains(words), true);
+    }
+
+    private static String document() {
+        try {
+            return Files.readString(Path.of("../shared/DOC.md")).replaceAll("\\s+", " ");
+        } catch (IOException e) {
+            throw new IllegalStateException("the tests quote ../shared/DOC.md, which is not beside this folder", e);
+        }
+    }
 
     static void is(String call, long got, long want) {
         asked++;
         if (got != want) {
             wrong++;
             if (wrong <= 40) {
-                System.out.println(call + " answered " + got + ", due is " + want);
+                System.out.println(sentence + call + " answered " + got + ", due is " + want);
             }
         }
     }
 
     static void is(String call, boolean got, boolean want) {
         is(call, got ? 1 : 0, want ? 1 : 0);
+    }
+
+    static void same(String call, String got, String want) {
+        is(call + ": all stands as it did", got.equals(want), true);
     }
 
     /** Feeds a text to the TAPE, byte by byte what it says, whatever stood there before. */
@@ -58,7 +89,8 @@ final class Due {
     }
 
     static void close(String name) {
-        System.out.println(name + ": " + asked + " answers, " + wrong + " wrong");
+        String held = sentences == 0 ? "" : " to " + sentences + " sentences";
+        System.out.println(name + ": " + asked + " answers" + held + ", " + wrong + " wrong");
         if (wrong != 0) {
             System.exit(1);
         }

@@ -85,19 +85,19 @@ public final class RoamTest {
             }
             Object[] a = arguments(m, run);
             boolean watched = i % 25 == 0;
-            String was = watched ? BackTest.all(x) + BackTest.thoughts(x) + x.look(12) : "";
+            String was = watched ? Stand.war(x) + Stand.thoughts(x) + x.look(12) : "";
             long got = call(x, m, a);
             String name = m.getName() + java.util.Arrays.toString(a);
             Due.is("the same again: " + name, call(again, m, a), got);
             boolean telling = TELLING.contains(m.getName());
             boolean hidden = m.getName().equals("state") || m.getName().equals("text");
             if (watched && (!telling || refused(m, got) && !hidden)) {
-                String is = BackTest.all(x) + BackTest.thoughts(x) + x.look(12);
+                String is = Stand.war(x) + Stand.thoughts(x) + x.look(12);
                 Due.is("behind " + name + " all stands as it did", is.equals(was), true);
             }
         }
-        Due.is("the same war in the end", BackTest.all(x).equals(BackTest.all(again)), true);
-        Due.is("the same thoughts in the end", BackTest.thoughts(x).equals(BackTest.thoughts(again)), true);
+        Due.is("the same war in the end", Stand.war(x).equals(Stand.war(again)), true);
+        Due.is("the same thoughts in the end", Stand.thoughts(x).equals(Stand.thoughts(again)), true);
     }
 
     /** Bytes that the machine has handed out to this thread: 8 an element at the most, and some a new object. */

@@ -5,7 +5,8 @@ import java.util.List;
 
 /** Promises 19 to 25, 35 to 37: what is thought of numbers alone, against a plain count of all there is. */
 public final class SumsTest {
-    private static final SlipperTruce X = new SlipperTruce();
+    private static SlipperTruce latest = new SlipperTruce();
+    private static int calls = 0;
     private static final int[] ODD = {Integer.MIN_VALUE, -1000, -2, Integer.MAX_VALUE, 1000000};
 
     public static void main(String[] args) {
@@ -19,8 +20,17 @@ public final class SumsTest {
         parts();
         brackets();
         game();
-        Due.is("nothing of it stays", X.look(12), 0);
+        Due.is("nothing of it stays", x().look(12), 0);
         Due.close("SumsTest");
+    }
+
+    /** Another object behind 500 calls: what one answers behind its 512th is free. */
+    private static SlipperTruce x() {
+        calls++;
+        if (calls % 500 == 0) {
+            latest = new SlipperTruce();
+        }
+        return latest;
     }
 
     private static void carry(List<int[]> states, int[] pegs, int boots, int from, int to) {
@@ -41,20 +51,20 @@ public final class SumsTest {
             carry(states, pegs, n, 0, 2);
             for (int k = 0; k < states.size(); k++) {
                 for (int i = 0; i < n; i++) {
-                    Due.is("boots(" + n + ", " + i + ", " + k + ")", X.boots(n, i, k), states.get(k)[i]);
+                    Due.is("boots(" + n + ", " + i + ", " + k + ")", x().boots(n, i, k), states.get(k)[i]);
                 }
             }
-            Due.is("boots beyond the end", X.boots(n, 0, states.size()), -1);
-            Due.is("boots beyond the last", X.boots(n, n, 0), -1);
-            Due.is("boots ahead of the first", X.boots(n, -1, 0), -1);
-            Due.is("boots ahead of the beginning", X.boots(n, 0, -1), -1);
+            Due.is("boots beyond the end", x().boots(n, 0, states.size()), -1);
+            Due.is("boots beyond the last", x().boots(n, n, 0), -1);
+            Due.is("boots ahead of the first", x().boots(n, -1, 0), -1);
+            Due.is("boots ahead of the beginning", x().boots(n, 0, -1), -1);
         }
-        Due.is("boots(0, 0, 0)", X.boots(0, 0, 0), -1);
-        Due.is("boots(11, 0, 0)", X.boots(11, 0, 0), -1);
+        Due.is("boots(0, 0, 0)", x().boots(0, 0, 0), -1);
+        Due.is("boots(11, 0, 0)", x().boots(11, 0, 0), -1);
         for (int odd : ODD) {
-            Due.is("boots(" + odd + ", 0, 0)", X.boots(odd, 0, 0), -1);
-            Due.is("boots(3, " + odd + ", 0)", X.boots(3, odd, 0), -1);
-            Due.is("boots(3, 0, " + odd + ")", X.boots(3, 0, odd), -1);
+            Due.is("boots(" + odd + ", 0, 0)", x().boots(odd, 0, 0), -1);
+            Due.is("boots(3, " + odd + ", 0)", x().boots(3, odd, 0), -1);
+            Due.is("boots(3, 0, " + odd + ")", x().boots(3, 0, odd), -1);
         }
     }
 
@@ -90,15 +100,15 @@ public final class SumsTest {
                     row = row * 10 + rest % 3;
                     rest /= 3;
                 }
-                Due.is("moves(" + row + ")", X.moves(row), far[s]);
+                Due.is("moves(" + row + ")", x().moves(row), far[s]);
             }
         }
         for (int pegs : new int[] {0, 1, 2, 9, 13, 19, 20, 22, 103, 130, 200, 222, 1003, 1300, 2000, 1222222223,
             1322222222, 2000000000, -1, -10, -12}) {
-            Due.is("moves(" + pegs + ")", X.moves(pegs), -1);
+            Due.is("moves(" + pegs + ")", x().moves(pegs), -1);
         }
         for (int odd : new int[] {Integer.MIN_VALUE, Integer.MAX_VALUE}) {
-            Due.is("moves(" + odd + ")", X.moves(odd), -1);
+            Due.is("moves(" + odd + ")", x().moves(odd), -1);
         }
     }
 
@@ -119,19 +129,19 @@ public final class SumsTest {
             split(n, 0, count);
             int all = 0;
             for (int k = 0; k <= 10; k++) {
-                Due.is("billets(" + n + ", " + k + ")", X.billets(n, k), count[k]);
+                Due.is("billets(" + n + ", " + k + ")", x().billets(n, k), count[k]);
                 all += count[k];
             }
-            Due.is("billets(" + n + ", -1)", X.billets(n, -1), all);
-            Due.is("billets(" + n + ", 11)", X.billets(n, 11), -1);
+            Due.is("billets(" + n + ", -1)", x().billets(n, -1), all);
+            Due.is("billets(" + n + ", 11)", x().billets(n, 11), -1);
         }
         for (int odd : ODD) {
-            Due.is("billets(" + odd + ", 0)", X.billets(odd, 0), -1);
-            Due.is("billets(5, " + odd + ")", X.billets(5, odd), -1);
+            Due.is("billets(" + odd + ", 0)", x().billets(odd, 0), -1);
+            Due.is("billets(5, " + odd + ")", x().billets(5, odd), -1);
         }
-        Due.is("billets(-1, -1)", X.billets(-1, -1), -1);
-        Due.is("billets(11, -1)", X.billets(11, -1), -1);
-        Due.is("billets(0, -1)", X.billets(0, -1), 1);
+        Due.is("billets(-1, -1)", x().billets(-1, -1), -1);
+        Due.is("billets(11, -1)", x().billets(11, -1), -1);
+        Due.is("billets(0, -1)", x().billets(0, -1), 1);
     }
 
     private static void deal(int n, int man, int taken, int own, int[] count) {
@@ -151,17 +161,17 @@ public final class SumsTest {
             int[] count = new int[11];
             deal(n, 0, 0, 0, count);
             for (int k = 0; k <= n; k++) {
-                Due.is("pairs(" + n + ", " + k + ")", X.pairs(n, k), count[k]);
+                Due.is("pairs(" + n + ", " + k + ")", x().pairs(n, k), count[k]);
             }
-            Due.is("pairs(" + n + ", " + (n + 1) + ")", X.pairs(n, n + 1), -1);
-            Due.is("pairs(" + n + ", -1)", X.pairs(n, -1), -1);
+            Due.is("pairs(" + n + ", " + (n + 1) + ")", x().pairs(n, n + 1), -1);
+            Due.is("pairs(" + n + ", -1)", x().pairs(n, -1), -1);
         }
-        Due.is("pairs(-1, -1)", X.pairs(-1, -1), -1);
-        Due.is("pairs(-1, 0)", X.pairs(-1, 0), -1);
-        Due.is("pairs(11, 0)", X.pairs(11, 0), -1);
+        Due.is("pairs(-1, -1)", x().pairs(-1, -1), -1);
+        Due.is("pairs(-1, 0)", x().pairs(-1, 0), -1);
+        Due.is("pairs(11, 0)", x().pairs(11, 0), -1);
         for (int odd : ODD) {
-            Due.is("pairs(" + odd + ", 0)", X.pairs(odd, 0), -1);
-            Due.is("pairs(5, " + odd + ")", X.pairs(5, odd), -1);
+            Due.is("pairs(" + odd + ", 0)", x().pairs(odd, 0), -1);
+            Due.is("pairs(5, " + odd + ")", x().pairs(5, odd), -1);
         }
     }
 
@@ -181,7 +191,7 @@ public final class SumsTest {
             for (int b = 0; b <= 12; b++) {
                 if (a <= b) {
                     for (int what = 0; what < 3; what++) {
-                        Due.is("ahead(" + a + ", " + b + ", " + what + ")", X.ahead(a, b, what), -1);
+                        Due.is("ahead(" + a + ", " + b + ", " + what + ")", x().ahead(a, b, what), -1);
                     }
                     continue;
                 }
@@ -194,21 +204,21 @@ public final class SumsTest {
                     x = y;
                     y = z;
                 }
-                Due.is("ahead(" + a + ", " + b + ", 0)", X.ahead(a, b, 0), good);
-                Due.is("ahead(" + a + ", " + b + ", 1)", X.ahead(a, b, 1), good / x);
-                Due.is("ahead(" + a + ", " + b + ", 2)", X.ahead(a, b, 2), all / x);
+                Due.is("ahead(" + a + ", " + b + ", 0)", x().ahead(a, b, 0), good);
+                Due.is("ahead(" + a + ", " + b + ", 1)", x().ahead(a, b, 1), good / x);
+                Due.is("ahead(" + a + ", " + b + ", 2)", x().ahead(a, b, 2), all / x);
             }
         }
-        Due.is("ahead(13, 0, 0)", X.ahead(13, 0, 0), -1);
-        Due.is("ahead(1, -1, 0)", X.ahead(1, -1, 0), -1);
-        Due.is("ahead(0, -1, 0)", X.ahead(0, -1, 0), -1);
+        Due.is("ahead(13, 0, 0)", x().ahead(13, 0, 0), -1);
+        Due.is("ahead(1, -1, 0)", x().ahead(1, -1, 0), -1);
+        Due.is("ahead(0, -1, 0)", x().ahead(0, -1, 0), -1);
         for (int odd : ODD) {
-            Due.is("ahead(" + odd + ", 1, 0)", X.ahead(odd, 1, 0), -1);
-            Due.is("ahead(5, " + odd + ", 0)", X.ahead(5, odd, 0), -1);
-            Due.is("ahead(5, 1, " + odd + ")", X.ahead(5, 1, odd), -1);
+            Due.is("ahead(" + odd + ", 1, 0)", x().ahead(odd, 1, 0), -1);
+            Due.is("ahead(5, " + odd + ", 0)", x().ahead(5, odd, 0), -1);
+            Due.is("ahead(5, 1, " + odd + ")", x().ahead(5, 1, odd), -1);
         }
-        Due.is("ahead(5, 1, 3)", X.ahead(5, 1, 3), -1);
-        Due.is("ahead(5, 1, -1)", X.ahead(5, 1, -1), -1);
+        Due.is("ahead(5, 1, 3)", x().ahead(5, 1, 3), -1);
+        Due.is("ahead(5, 1, -1)", x().ahead(5, 1, -1), -1);
     }
 
     /** Gauss's way, with its two exceptions: another one than the document's. */
@@ -229,15 +239,15 @@ public final class SumsTest {
     private static void feast() {
         for (int y = 1600; y <= 2400; y++) {
             int march = easter(y);
-            Due.is("feast(" + y + ", 0)", X.feast(y, 0), march > 31 ? 4 : 3);
-            Due.is("feast(" + y + ", 1)", X.feast(y, 1), march > 31 ? march - 31 : march);
+            Due.is("feast(" + y + ", 0)", x().feast(y, 0), march > 31 ? 4 : 3);
+            Due.is("feast(" + y + ", 1)", x().feast(y, 1), march > 31 ? march - 31 : march);
         }
         for (int y : new int[] {1599, 2401, 0, -1, Integer.MIN_VALUE, Integer.MAX_VALUE}) {
-            Due.is("feast(" + y + ", 0)", X.feast(y, 0), -1);
-            Due.is("feast(" + y + ", 1)", X.feast(y, 1), -1);
+            Due.is("feast(" + y + ", 0)", x().feast(y, 0), -1);
+            Due.is("feast(" + y + ", 1)", x().feast(y, 1), -1);
         }
         for (int what : new int[] {-1, 2, Integer.MIN_VALUE, Integer.MAX_VALUE}) {
-            Due.is("feast(2000, " + what + ")", X.feast(2000, what), -1);
+            Due.is("feast(2000, " + what + ")", x().feast(2000, what), -1);
         }
     }
 
@@ -256,18 +266,18 @@ public final class SumsTest {
             }
             many += at == 1 ? 1 : 0;
             if (n <= 3000 || n > 99000) {
-                Due.is("happy(" + n + ", 0)", X.happy(n, 0), at == 1 ? 1 : 0);
-                Due.is("happy(" + n + ", 1)", X.happy(n, 1), turns);
-                Due.is("happy(" + n + ", 2)", X.happy(n, 2), n <= 999 ? many : -1);
+                Due.is("happy(" + n + ", 0)", x().happy(n, 0), at == 1 ? 1 : 0);
+                Due.is("happy(" + n + ", 1)", x().happy(n, 1), turns);
+                Due.is("happy(" + n + ", 2)", x().happy(n, 2), n <= 999 ? many : -1);
             }
         }
         for (int n : new int[] {0, -1, 100000, Integer.MIN_VALUE, Integer.MAX_VALUE}) {
             for (int what = 0; what < 3; what++) {
-                Due.is("happy(" + n + ", " + what + ")", X.happy(n, what), -1);
+                Due.is("happy(" + n + ", " + what + ")", x().happy(n, what), -1);
             }
         }
         for (int what : new int[] {-1, 3, Integer.MIN_VALUE, Integer.MAX_VALUE}) {
-            Due.is("happy(7, " + what + ")", X.happy(7, what), -1);
+            Due.is("happy(7, " + what + ")", x().happy(7, what), -1);
         }
     }
 
@@ -291,20 +301,20 @@ public final class SumsTest {
                     greatest = p;
                 }
             }
-            Due.is("parts(" + n + ", 0)", X.parts(n, 0), primes);
-            Due.is("parts(" + n + ", 1)", X.parts(n, 1), greatest);
-            Due.is("parts(" + n + ", 2)", X.parts(n, 2), divisors);
-            Due.is("parts(" + n + ", 3)", X.parts(n, 3), sum);
+            Due.is("parts(" + n + ", 0)", x().parts(n, 0), primes);
+            Due.is("parts(" + n + ", 1)", x().parts(n, 1), greatest);
+            Due.is("parts(" + n + ", 2)", x().parts(n, 2), divisors);
+            Due.is("parts(" + n + ", 3)", x().parts(n, 3), sum);
         }
-        Due.is("parts(99991, 1), a prime", X.parts(99991, 1), 99991);
-        Due.is("parts(99999, 3)", X.parts(99999, 3), 13 * 42 * 272 == 148512 ? 148512 : 0);
-        Due.is("parts(65536, 0)", X.parts(65536, 0), 16);
-        Due.is("parts(65536, 3)", X.parts(65536, 3), 131071);
+        Due.is("parts(99991, 1), a prime", x().parts(99991, 1), 99991);
+        Due.is("parts(99999, 3)", x().parts(99999, 3), 13 * 42 * 272 == 148512 ? 148512 : 0);
+        Due.is("parts(65536, 0)", x().parts(65536, 0), 16);
+        Due.is("parts(65536, 3)", x().parts(65536, 3), 131071);
         for (int n : new int[] {1, 0, -1, 100000, Integer.MIN_VALUE, Integer.MAX_VALUE}) {
-            Due.is("parts(" + n + ", 0)", X.parts(n, 0), -1);
+            Due.is("parts(" + n + ", 0)", x().parts(n, 0), -1);
         }
         for (int what : new int[] {-1, 4, Integer.MIN_VALUE, Integer.MAX_VALUE}) {
-            Due.is("parts(12, " + what + ")", X.parts(12, what), -1);
+            Due.is("parts(12, " + what + ")", x().parts(12, what), -1);
         }
     }
 
@@ -324,29 +334,29 @@ public final class SumsTest {
             int place = 0;
             for (int row = (1 << 2 * n) - 1; row >= 0; row--) {
                 boolean well = wellSet(n, row);
-                Due.is("brackets(" + n + ", " + row + ", 2)", X.brackets(n, row, 2), well ? place : -1);
+                Due.is("brackets(" + n + ", " + row + ", 2)", x().brackets(n, row, 2), well ? place : -1);
                 if (well) {
-                    Due.is("brackets(" + n + ", " + place + ", 1)", X.brackets(n, place, 1), row);
+                    Due.is("brackets(" + n + ", " + place + ", 1)", x().brackets(n, place, 1), row);
                     place++;
                 }
             }
-            Due.is("brackets(" + n + ", -7, 0)", X.brackets(n, -7, 0), place);
-            Due.is("brackets(" + n + ", " + place + ", 1)", X.brackets(n, place, 1), -1);
-            Due.is("brackets(" + n + ", -1, 1)", X.brackets(n, -1, 1), -1);
-            Due.is("brackets(" + n + ", -1, 2)", X.brackets(n, -1, 2), -1);
-            Due.is("brackets, a row too long", X.brackets(n, 1 << 2 * n, 2), -1);
-            Due.is("brackets, a row too long", X.brackets(n, 1 << 2 * n | 42, 2), -1);
+            Due.is("brackets(" + n + ", -7, 0)", x().brackets(n, -7, 0), place);
+            Due.is("brackets(" + n + ", " + place + ", 1)", x().brackets(n, place, 1), -1);
+            Due.is("brackets(" + n + ", -1, 1)", x().brackets(n, -1, 1), -1);
+            Due.is("brackets(" + n + ", -1, 2)", x().brackets(n, -1, 2), -1);
+            Due.is("brackets, a row too long", x().brackets(n, 1 << 2 * n, 2), -1);
+            Due.is("brackets, a row too long", x().brackets(n, 1 << 2 * n | 42, 2), -1);
             for (int odd : ODD) {
-                Due.is("brackets(" + n + ", " + odd + ", 1)", X.brackets(n, odd, 1), -1);
-                Due.is("brackets(" + n + ", " + odd + ", 2)", X.brackets(n, odd, 2), -1);
-                Due.is("brackets(" + n + ", 0, " + odd + ")", X.brackets(n, 0, odd), -1);
-                Due.is("brackets(" + odd + ", 0, 0)", X.brackets(odd, 0, 0), -1);
+                Due.is("brackets(" + n + ", " + odd + ", 1)", x().brackets(n, odd, 1), -1);
+                Due.is("brackets(" + n + ", " + odd + ", 2)", x().brackets(n, odd, 2), -1);
+                Due.is("brackets(" + n + ", 0, " + odd + ")", x().brackets(n, 0, odd), -1);
+                Due.is("brackets(" + odd + ", 0, 0)", x().brackets(odd, 0, 0), -1);
             }
         }
-        Due.is("brackets(9, 0, 0)", X.brackets(9, 0, 0), -1);
-        Due.is("brackets(-1, 0, 0)", X.brackets(-1, 0, 0), -1);
-        Due.is("brackets(3, 0, 3)", X.brackets(3, 0, 3), -1);
-        Due.is("brackets(3, 0, -1)", X.brackets(3, 0, -1), -1);
+        Due.is("brackets(9, 0, 0)", x().brackets(9, 0, 0), -1);
+        Due.is("brackets(-1, 0, 0)", x().brackets(-1, 0, 0), -1);
+        Due.is("brackets(3, 0, 3)", x().brackets(3, 0, 3), -1);
+        Due.is("brackets(3, 0, -1)", x().brackets(3, 0, -1), -1);
     }
 
     private static void game() {
@@ -365,16 +375,16 @@ public final class SumsTest {
                 for (int take = most; take >= 1; take--) {
                     due = wins[n - take][Math.min(240, 2 * take)] ? due : take;
                 }
-                Due.is("game(" + n + ", " + m + ")", X.game(n, m), due);
+                Due.is("game(" + n + ", " + m + ")", x().game(n, m), due);
             }
-            Due.is("game(" + n + ", 121)", X.game(n, 121), -1);
-            Due.is("game(" + n + ", 0)", X.game(n, 0), -1);
-            Due.is("game(" + n + ", -2)", X.game(n, -2), -1);
+            Due.is("game(" + n + ", 121)", x().game(n, 121), -1);
+            Due.is("game(" + n + ", 0)", x().game(n, 0), -1);
+            Due.is("game(" + n + ", -2)", x().game(n, -2), -1);
         }
         for (int n : new int[] {0, -1, 121, Integer.MIN_VALUE, Integer.MAX_VALUE}) {
-            Due.is("game(" + n + ", 1)", X.game(n, 1), -1);
-            Due.is("game(" + n + ", -1)", X.game(n, -1), -1);
-            Due.is("game(4, " + n + ")", X.game(4, n), n == -1 ? 1 : -1);
+            Due.is("game(" + n + ", 1)", x().game(n, 1), -1);
+            Due.is("game(" + n + ", -1)", x().game(n, -1), -1);
+            Due.is("game(4, " + n + ")", x().game(4, n), n == -1 ? 1 : -1);
         }
     }
 }
