@@ -210,6 +210,15 @@ public final class EdgesOfTextsTest {
         when("not 1=1 or 1=1", true);
         when("(1=1)", true);
         when("(1=1 or 1=1) and 1=2", false);
+        when("1=1 or (1=2)", true);
+        when("1=2 and (1=1)", false);
+        when("1=2 or (1=2 or 1=1)", true);
+        when("1=1 and (1=2 or 1=1)", true);
+        for (String so : "1<2 2=2 2>1".split(" ")) {
+            when("not " + so, false);
+            when("not not " + so, true);
+            when("not (" + so + " and " + so + ")", false);
+        }
         fault(LAW, "rests 1 when 1;", 1, 14);
         fault(LAW, "rests 1 when 1=;", 1, 15);
         fault(LAW, "rests 1 when =1;", 1, 13);
@@ -618,6 +627,12 @@ public final class EdgesOfTextsTest {
         fault(LAW, "rests 1" + " ".repeat(393), 1, 400);
         fault(LAW, " ".repeat(399) + ";", 1, 399);
         fault(LAW, "z".repeat(400), 1, 0);
+        for (int i = 1; i < 5; i++) {
+            fault(LAW, " ".repeat(400 - i) + "reads".substring(0, i), 1, 400 - i);
+            fault(ORDERS, " ".repeat(390) + "on 1 truce".substring(0, 5 + i) + " ".repeat(5 - i), 1, 395);
+            fault(ORDERS, " ".repeat(395 - i) + "on 1 truce".substring(0, 5 + i), 1, 400 - i);
+        }
+        fault(LAW, " ".repeat(395) + "reads", 1, 400);
         fault(LAW, ";".repeat(400), 1, 0);
     }
 
@@ -872,6 +887,21 @@ public final class EdgesOfTextsTest {
         x.feed(0x3f3f3f3f, 0x3f3f3f3f, 0x3f3f3f3f, 0x3f3f3f3f, 0x3f3f3f3f);
         Due.is("end(0) of 20", x.end(0), true);
         Due.is("text(0) of none", x.text(LAW), 0);
+        cutAt("on 1 truces", 10, 1, 10);
+        cutAt("on 1 truce", 9, 1, 5);
+        cutAt("on 12345", 7, 2, 3);
+        cutAt("on 1 march 0 12", 14, 1, 14);
+        cutAt("on 1 truce;?", 11, 0, -1);
+    }
+
+    /** ORDERS whose TAPE goes on behind its end: what stood there counts for nothing. */
+    private static void cutAt(String text, int end, int fault, int place) {
+        SlipperTruce x = some();
+        Due.tape(x, text);
+        Due.is("end(" + end + ") of \"" + text + "\"", x.end(end), true);
+        Due.is("text(1)", x.text(ORDERS), fault == 0 ? 1 : -1);
+        Due.is("fault(0)", x.fault(0), fault);
+        Due.is("fault(1)", x.fault(1), place);
     }
 
     private static void textTaken() {
@@ -887,6 +917,11 @@ public final class EdgesOfTextsTest {
                     Due.is("look(" + (8 + i) + ")", x.look(8 + i), i == k && due > 0 ? due : 0);
                 }
             }
+        }
+        SlipperTruce full = some();
+        for (int more = 190; more < 196; more++) {
+            Due.told(full, LAW, "reads 1" + "+1".repeat(more) + ";", 1);
+            Due.is("reads, of a full TAPE", full.of(0, 11), more + 1);
         }
     }
 

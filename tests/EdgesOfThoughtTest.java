@@ -94,6 +94,7 @@ public final class EdgesOfThoughtTest {
 
     private static void within() {
         eightCorners();
+        lastToTheFirst();
         oneCornerOrTwo();
         onAnEdge();
         lesserEnd();
@@ -111,6 +112,7 @@ public final class EdgesOfThoughtTest {
         bracketsRefused();
         heaps();
         mostAtFirst();
+        twiceAtMost();
         ifHeCanWin();
         gameRefused();
     }
@@ -184,6 +186,15 @@ public final class EdgesOfThoughtTest {
         x.days(1);
         Due.is("goes(59, 0) of the DAY behind it", x.goes(59, 0), 70);
         Due.is("goes(60, 1) of the DAY behind it", x.goes(60, 1), 4);
+        SlipperTruce late = served("presses 1;rests 10;");
+        for (int i = 0; i < 166; i++) {
+            late.days(60);
+            late.set(5, 0, 0);
+        }
+        late.days(39);
+        Due.is("DAY", late.look(5), 9999);
+        late.set(5, 0, 0);
+        Due.is("goes(60, 0) of DAY 9999, as days() alone has an end there", late.goes(60, 0), 60);
         Due.is("goes(1, 0) of an empty war", new SlipperTruce().goes(1, 0), 0);
     }
 
@@ -531,9 +542,9 @@ public final class EdgesOfThoughtTest {
     private static void yearsOfFeast() {
         Due.says("FEAST of year y (1600 .. 2400)");
         SlipperTruce x = new SlipperTruce();
-        // the first and the last year, the earliest and the latest day, the two years for which M is there
+        // the first and the last year, the earliest and the latest day, years where M is 1, or where it nearly is
         int[][] told = {{1600, 4, 2}, {2400, 4, 16}, {1818, 3, 22}, {1943, 4, 25}, {1954, 4, 18}, {1981, 4, 19},
-            {1700, 4, 11}, {1899, 4, 2}, {1900, 4, 15}, {2000, 4, 23}, {2013, 3, 31}, {2018, 4, 1}};
+            {1609, 4, 19}, {1707, 4, 24}, {1734, 4, 25}, {1886, 4, 25}, {2106, 4, 18}, {1700, 4, 11}, {1899, 4, 2}, {1900, 4, 15}, {2000, 4, 23}, {2013, 3, 31}, {2018, 4, 1}};
         for (int[] t : told) {
             Due.is("feast(" + t[0] + ", 0)", x.feast(t[0], 0), t[1]);
             Due.is("feast(" + t[0] + ", 1)", x.feast(t[0], 1), t[2]);
@@ -815,6 +826,8 @@ public final class EdgesOfThoughtTest {
         anewIs("0101", 3, 3, 0);
         anewIs("01010", 4, 5, 0);
         anewIs("01011", 4, 3, 0);
+        anewIs("0101101", 5, 6, 1);
+        anewIs("011000111", 6, 7, 1);
         anewIs("0001101", 5, 4, 2);
         anewIs("000110", 4, 4, 2);
     }
@@ -988,6 +1001,19 @@ public final class EdgesOfThoughtTest {
         Due.is("within(-50, -49)", seven.within(-50, -49), 0);
     }
 
+    private static void lastToTheFirst() {
+        Due.says("each joined to the next one, the last one to the first");
+        SlipperTruce x = way(0, 0, 6, 0, 6, 6, 0, 6);
+        int[][] on = {{0, 3}, {3, 0}, {6, 3}, {3, 6}};
+        for (int[] p : on) {
+            Due.is("within(" + p[0] + ", " + p[1] + ")", x.within(p[0], p[1]), 2);
+        }
+        Due.is("left of the last edge", x.within(-1, 3), 0);
+        Due.is("right of the last edge", x.within(1, 3), 1);
+        Due.is("no edge through it", x.within(3, 3), 1);
+        Due.is("area()", x.area(), 72);
+    }
+
     private static void oneCornerOrTwo() {
         Due.says("(one corner: to itself; two: there and back)");
         SlipperTruce none = new SlipperTruce();
@@ -1028,6 +1054,12 @@ public final class EdgesOfThoughtTest {
         for (int[] p : off) {
             Due.is("within(" + p[0] + ", " + p[1] + ")", x.within(p[0], p[1]), p[2]);
         }
+        SlipperTruce close = way(1, 0, 2, 3, -5, 3);
+        Due.is("close to an edge upwards, in it", close.within(1, 1), 1);
+        Due.is("close to an edge upwards, beside it", close.within(2, 2), 0);
+        SlipperTruce closeDown = way(-5, 3, 2, 3, 1, 0);
+        Due.is("close to an edge downwards, in it", closeDown.within(1, 1), 1);
+        Due.is("close to an edge downwards, beside it", closeDown.within(2, 2), 0);
         SlipperTruce far = way(-50, -50, 50, 49);
         Due.is("no point between", far.within(0, 0), 0);
         Due.is("the end", far.within(50, 49), 2);
@@ -1233,6 +1265,18 @@ public final class EdgesOfThoughtTest {
         for (int[] t : told) {
             Due.is("game(" + t[0] + ", " + t[1] + ")", x.game(t[0], t[1]), t[2]);
         }
+    }
+
+    private static void twiceAtMost() {
+        Due.says("then each takes one at least and at most twice what the other one took just ahead");
+        SlipperTruce x = new SlipperTruce();
+        // of 4 he takes 1: the other one takes 1 or 2 of 3, and what is left is taken at once
+        Due.is("game(4, 3)", x.game(4, 3), 1);
+        Due.is("game(3, 2)", x.game(3, 2), -1);
+        Due.is("game(3, 3)", x.game(3, 3), 3);
+        Due.is("game(6, 5)", x.game(6, 5), 1);
+        Due.is("game(7, 6)", x.game(7, 6), 2);
+        Due.is("game(8, 7)", x.game(8, 7), -1);
     }
 
     private static void ifHeCanWin() {

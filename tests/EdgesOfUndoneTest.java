@@ -267,9 +267,14 @@ public final class EdgesOfUndoneTest {
         for (int i = 3; i < 12; i++) {
             twelve.officer(0, 0);
         }
+        for (int i = 2; i < 12; i++) {
+            twelve.batman(0, 0);
+        }
         twelve.days(1);
-        twelve.officer(0, 0);
-        Due.is("look(12) behind a thirteenth", twelve.look(12), 1);
+        Due.is("the thirteenth OFFICER", twelve.officer(0, 0), -1);
+        Due.is("look(12) behind him", twelve.look(12), 1);
+        Due.is("the thirteenth BATMAN", twelve.batman(0, 0), -1);
+        Due.is("look(12) behind him", twelve.look(12), 1);
     }
 
     private static void nothingToUndo() {

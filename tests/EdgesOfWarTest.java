@@ -18,6 +18,8 @@ public final class EdgesOfWarTest {
     }
 
     private static void draws() {
+        none();
+        fiveHundredAndTwelveCalls();
         stateIsAnInt();
         drawWraps();
         drawIsWithoutSign();
@@ -53,6 +55,7 @@ public final class EdgesOfWarTest {
     }
 
     private static void pressing() {
+        quotientsDownwards();
         lessForSleep();
         carriedOut();
         toTheEnd();
@@ -82,6 +85,7 @@ public final class EdgesOfWarTest {
 
     private static void theBook() {
         bookIsFull();
+        whoIsTold();
         bookTells();
         bookTellsOfReadOnce();
         bookTellsOfPlansAlone();
@@ -106,6 +110,7 @@ public final class EdgesOfWarTest {
         hisBatman();
         whomHeNeeds();
         couldComeOn();
+        asTheLawTells();
         ofRefused();
         whoServes();
         whoRefused();
@@ -159,6 +164,23 @@ public final class EdgesOfWarTest {
     }
 
     // ---- draws ----
+
+    private static void none() {
+        Due.says("`NONE = -1`: None.");
+        Due.is("NONE", SlipperTruce.NONE, -1);
+    }
+
+    private static void fiveHundredAndTwelveCalls() {
+        Due.says("An object is used for at most 512 calls after it has been made");
+        SlipperTruce x = new SlipperTruce();
+        for (int call = 1; call <= 512; call++) {
+            Due.is("call " + call, x.state(call), call - 1);
+        }
+        SlipperTruce y = served("presses 0;reads 0;");
+        for (int call = 30; call <= 512; call++) {
+            Due.is("call " + call, y.act(1 + call % 2, 0, 0), true);
+        }
+    }
 
     private static void stateIsAnInt() {
         Due.says("STATE of draws (an int, 0 at first)");
@@ -538,6 +560,17 @@ public final class EdgesOfWarTest {
 
     // ---- (b) ----
 
+    private static void quotientsDownwards() {
+        Due.says("Quotients go downwards.");
+        int[][] sleeps = {{49, 0}, {45, 0}, {41, 0}, {40, 1}, {39, 1}, {31, 1}, {30, 2}, {1, 4}, {0, 5}};
+        for (int[] s : sleeps) {
+            SlipperTruce x = officers(1, 9);
+            x.set(1, 0, s[0]);
+            x.days(1);
+            Due.is("less by SLEEP " + s[0], 9 + x.look(2), s[1]);
+        }
+    }
+
     private static void lessForSleep() {
         Due.says("less as many as 50 less SLEEP by 10 is (if SLEEP is below 50; 0 at least)");
         for (int sleep = 0; sleep < 100; sleep++) {
@@ -855,6 +888,27 @@ public final class EdgesOfWarTest {
             Due.is("look(6)", x.look(6), Math.min(150, i));
         }
         Due.is("what the last line tells", x.book(149, 1), 0);
+        Due.is("PLAN is at its end", x.of(0, 3), 99);
+        x.act(1, 0, 0);
+        x.act(0, 0, 1);
+        Due.is("given up, without a line", x.of(0, 3), 0);
+        Due.is("look(6)", x.look(6), 150);
+        Due.is("what the last line tells", x.book(149, 1), 0);
+        Due.is("how much it tells", x.book(149, 3), 99);
+    }
+
+    private static void whoIsTold() {
+        Due.says("who (the OFFICER; 5: the one who pressed)");
+        SlipperTruce x = twelve();
+        for (int i = 0; i < 11; i++) {
+            x.set(0, i, 0);
+        }
+        x.set(0, 11, 9);
+        x.set(5, 0, 90);
+        x.act(0, 11, 5);
+        x.act(0, 0, 5);
+        x.days(1);
+        DaysTest.bookIs(x, new int[][] {{0, 0, 11, 5}, {0, 0, 0, 5}, {0, 5, 11, 0}});
     }
 
     private static void bookTells() {
@@ -1165,6 +1219,19 @@ public final class EdgesOfWarTest {
         Due.is("once it is WON", x.of(0, 12), 1);
         x.set(2, 1, 9);
         Due.is("once it is WON, with 9", x.of(0, 12), 0);
+    }
+
+    private static void asTheLawTells() {
+        Due.says("9 presses (as THE LAW tells)");
+        SlipperTruce x = officers(0, 9);
+        for (int sleep : new int[] {0, 9, 49, 50, 99}) {
+            x.set(1, 0, sleep);
+            Due.is("of(0, 9) with SLEEP " + sleep, x.of(0, 9), 9);
+        }
+        x.set(2, 0, 99);
+        Due.is("of(0, 9) with PLAN 99", x.of(0, 9), 9);
+        SlipperTruce won = wonWar();
+        Due.is("of(1, 9) once it is WON", won.of(1, 9), 3);
     }
 
     private static void ofRefused() {
