@@ -65,6 +65,7 @@ public final class TextsTest {
         Due.is("text(0) of blanks", x.text(0), 0);
         Due.is("of(0, 9)", x.of(0, 9), 1);
         for (int c = 0; c < 256; c++) {
+            x = c % 64 == 0 ? new SlipperTruce() : x;
             x.feed(c << 24 | 0x202020, 0x20202020, 0x20202020, 0x20202020, 0x20202020);
             boolean blank = c == 32 || c == 10;
             Due.is("text(0) of the byte " + c, x.text(0), blank ? 0 : -1);
@@ -139,6 +140,7 @@ public final class TextsTest {
         Due.told(x, 0, "reads 1" + "+1".repeat(196) + ";", 1);
         Due.is("of(0, 11)", x.of(0, 11), 197);
         Due.faulty(x, 0, "reads 1" + "+1".repeat(196) + "+", 1, 400);
+        x = some();
         Due.told(x, 0, "reads 9" + "*1".repeat(196) + ";", 1);
         Due.is("of(0, 11)", x.of(0, 11), 9);
         Due.told(x, 0, "reads 9" + "/1".repeat(196) + ";", 1);
@@ -146,11 +148,13 @@ public final class TextsTest {
         Due.faulty(x, 0, "reads 9" + "/1".repeat(195) + "/0;", 2, 398);
         Due.told(x, 0, "reads 8 when 1=2" + " or 1=2".repeat(53) + " or 1=1" + ";", 1);
         Due.is("of(0, 11)", x.of(0, 11), 8);
+        x = some();
         Due.told(x, 0, "rests 1;" + " ".repeat(392), 1);
         Due.told(x, 0, " ".repeat(392) + "rests 1;", 1);
         Due.faulty(x, 0, " ".repeat(393) + "rests 1", 1, 400);
         Due.faulty(x, 0, "z".repeat(400), 1, 0);
         Due.faulty(x, 0, "rests " + "1".repeat(394), 1, 6);
+        x = some();
         for (String letter : "a m z A M Z".split(" ")) {
             Due.faulty(x, 0, "presses skill" + letter + ";", 1, 8);
             Due.faulty(x, 0, "presses " + letter + "skill;", 1, 8);
@@ -170,6 +174,7 @@ public final class TextsTest {
         String[] words = {"officer", "batman", "needs", "on", "march", "sole", "new", "truce", "when", "and", "or",
             "not", "presses", "rests", "reads", "x", ";", "+", "-", "*", "/", "(", ")", "<", "=", ">", "12345"};
         for (String word : words) {
+            x = some();
             Due.faulty(x, 0, "presses " + word + ";", 1, 8);
             Due.faulty(x, 0, "presses 1+" + word + ";", 1, 10);
             Due.faulty(x, 0, "presses 1*" + word + ";", 1, 10);
@@ -182,9 +187,11 @@ public final class TextsTest {
         for (String word : "presses rests reads not ( ) and or < = > 7 skill on".split(" ")) {
             Due.faulty(x, 0, "rests 1 " + word + ";", 1, 8);
         }
+        x = some();
         for (String word : "presses rests reads not ( ) < = > 7 skill when".split(" ")) {
             Due.faulty(x, 0, "rests 1 when 1=1 " + word + ";", 1, 17);
         }
+        x = some();
         Due.faulty(x, 0, "rests 1/skill;", 1, 8);
         Due.faulty(x, 0, "rests 1 when 1;", 1, 14);
         Due.faulty(x, 0, "rests 1 when 1 and 1=1;", 1, 15);
